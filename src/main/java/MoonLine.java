@@ -68,42 +68,28 @@ public final class MoonLine {
     }
 
     public int lay(int r, int i, int v) {
-        if (!isRow(r)) {
-            return BAD;
+        int refusal = refusalOfPlace(r, i);
+        if (refusal != 0) {
+            return refusal;
         }
-        Row row = allRows[r];
-        if (row.isMissing()) {
-            return find(NOTHING);
-        }
-        if (!row.has(i)) {
-            return find(BEYOND);
-        }
-        toldNumber = row.places[i];
-        row.places[i] = v;
+        toldNumber = allRows[r].places[i];
+        allRows[r].places[i] = v;
         return 1;
     }
 
     public int at(int r, int i) {
-        if (!isRow(r)) {
-            return BAD;
+        int refusal = refusalOfPlace(r, i);
+        if (refusal != 0) {
+            return refusal;
         }
-        Row row = allRows[r];
-        if (row.isMissing()) {
-            return find(NOTHING);
-        }
-        if (!row.has(i)) {
-            return find(BEYOND);
-        }
-        toldNumber = row.places[i];
+        toldNumber = allRows[r].places[i];
         return 1;
     }
 
     public int tear(int r) {
-        if (!isRow(r)) {
-            return BAD;
-        }
-        if (allRows[r].isMissing()) {
-            return find(NOTHING);
+        int refusal = refusalOfRow(r);
+        if (refusal != 0) {
+            return refusal;
         }
         allRows[r].size = MISSING;
         return 1;
@@ -130,13 +116,11 @@ public final class MoonLine {
     }
 
     public int mean(int r) {
-        if (!isRow(r)) {
-            return BAD;
+        int refusal = refusalOfRow(r);
+        if (refusal != 0) {
+            return refusal;
         }
         Row row = allRows[r];
-        if (row.isMissing()) {
-            return find(NOTHING);
-        }
         if (row.size == 0) {
             return find(NOUGHT);
         }
@@ -156,13 +140,11 @@ public final class MoonLine {
     }
 
     public int put(int t, int i, int v) {
-        if (!isText(t)) {
-            return BAD;
+        int refusal = refusalOfText(t);
+        if (refusal != 0) {
+            return refusal;
         }
         Text text = allTexts[t];
-        if (text.isMissing()) {
-            return find(NOTHING);
-        }
         if (!text.has(i)) {
             return find(BEYOND);
         }
@@ -172,21 +154,14 @@ public final class MoonLine {
     }
 
     public int fault(int t) {
-        if (!isText(t)) {
-            return BAD;
-        }
-        if (allTexts[t].isMissing()) {
-            return find(NOTHING);
-        }
-        return draft.read(allTexts[t]);
+        int refusal = refusalOfText(t);
+        return refusal != 0 ? refusal : draft.read(allTexts[t]);
     }
 
     public int line(int t) {
-        if (!isText(t)) {
-            return BAD;
-        }
-        if (allTexts[t].isMissing()) {
-            return find(NOTHING);
+        int refusal = refusalOfText(t);
+        if (refusal != 0) {
+            return refusal;
         }
         if (draft.read(allTexts[t]) != NONE) {
             return STATE;
@@ -646,6 +621,29 @@ public final class MoonLine {
             findingTimes[which]++;
         }
         return FINDING;
+    }
+
+    // 0: not refused
+    private int refusalOfRow(int r) {
+        if (!isRow(r)) {
+            return BAD;
+        }
+        return allRows[r].isMissing() ? find(NOTHING) : 0;
+    }
+
+    private int refusalOfPlace(int r, int i) {
+        int refusal = refusalOfRow(r);
+        if (refusal != 0) {
+            return refusal;
+        }
+        return allRows[r].has(i) ? 0 : find(BEYOND);
+    }
+
+    private int refusalOfText(int t) {
+        if (!isText(t)) {
+            return BAD;
+        }
+        return allTexts[t].isMissing() ? find(NOTHING) : 0;
     }
 
     private void tellWays(long ways) {
@@ -1404,7 +1402,6 @@ public final class MoonLine {
             if (place == 0) {
                 return false;
             }
-            traded.setAs(steps[2 * depth]);
             traded.swapPlaces(place, place - 1);
             return isWonBehindTrade(depth, clouds);
         }

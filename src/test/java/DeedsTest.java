@@ -182,6 +182,12 @@ public final class DeedsTest {
         due.is("DEEDS are kept: undo(1)", x.undo(1), 1);
         due.is("a TRADE undone", Due.asked(x, 2, 3), 1);
         due.is("what is kept stays: on(0)", x.on(0), 2);
+        x.undo(0);
+        x.night(0);
+        x.night(0);
+        due.is("behind other DEEDS: on(0)", x.on(0), 2);
+        due.is("who WENT when it was kept", Due.asked(x, 0, 5), 0);
+        due.is("the NIGHT when it was kept", x.count(1), 1);
         due.is("keep(0) anew", x.keep(0), 2);
         x.undo(0);
         due.is("keep(0) over it", x.keep(0), 0);

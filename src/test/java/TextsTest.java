@@ -88,6 +88,8 @@ public final class TextsTest {
         due.is("line(0)", x.line(0), 2);
         x.price(0, 7);
         x.night(1);
+        x.keep(0);
+        x.keep(1);
         x.keep(2);
         due.is("line(2)", x.line(2), MoonLine.STATE);
         due.is("a refused line: count(0)", x.count(0), 2);
@@ -98,6 +100,8 @@ public final class TextsTest {
         due.is("DEEDS", x.count(2), 0);
         due.is("in the LINE", x.count(3), 2);
         due.is("kept LINES", x.count(10), 0);
+        due.finds("on(0)", x, x.on(0), 1);
+        due.finds("on(1)", x, x.on(1), 1);
         due.finds("on(2)", x, x.on(2), 1);
         due.is("the PRICE anew", Due.asked(x, 0, 2), 2);
         due.is("line(1)", x.line(1), 1);
@@ -155,6 +159,7 @@ public final class TextsTest {
         due.is("a RAM at the first place as a PUSHER", x.mark(2, 1), 0);
         x.trade(2, 3);
         due.is("a RAM behind two ASLEEP", x.mark(2, 4), 2);
+        due.is("a RAM between ASLEEP ones", Due.line("w90 s90 r90 w90 s90").mark(2, 4), 1);
         x.trade(3, 4);
         due.is("a LOVER that is last", x.mark(3, 3), NONE);
         due.is("a SLEEPER ahead of all that are awake", x.mark(1, 2), 3);

@@ -81,6 +81,10 @@ public final class ToldTest {
         for (int what = 0; what <= 10; what++) {
             due.is("count(" + what + ")", x.count(what), want[what]);
         }
+        MoonLine y = Due.line("r90 p90 w90 s90 d90");
+        due.is("count(6) with the first one", y.count(6), 2);
+        due.is("count(7) with the last one", y.count(7), 2);
+        due.is("count(7) with the first one", Due.line("d90 s90").count(7), 2);
         due.is("count(11)", x.count(11), BAD);
         due.is("count(-1)", x.count(-1), BAD);
     }

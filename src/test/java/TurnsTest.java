@@ -91,6 +91,9 @@ public final class TurnsTest {
         x.lay(0, 19, -1);
         due.finds("turn(0, 0) with a -1", x, x.turn(0, 0), 3);
         due.finds("after(0) with a -1", x, x.after(0), 3);
+        Due.fill(x, 1, 3, 1);
+        due.finds("turn(0, 1) with a 3 ahead", x, x.turn(0, 1), 3);
+        due.finds("after(1) with a 3 ahead", x, x.after(1), 3);
         Due.fill(x, 1, 1, 2);
         due.finds("turn(0, 1): wrong behind its turn", x, x.turn(0, 1), 3);
     }
@@ -164,6 +167,9 @@ public final class TurnsTest {
         due.tells("mid(5, 0)", x, 0, 1);
         x.mid(2, 6);
         due.tells("mid(2, 6)", x, 1, 1);
+        MoonLine two = Due.line("w90 w90");
+        two.mid(2, 12);
+        due.tells("mid(2, 12) of two", two, 2, 1);
         due.is("mid(11, 1)", x.mid(11, 1), BAD);
         due.is("mid(-1, 1)", x.mid(-1, 1), BAD);
         due.is("mid(1, 13)", x.mid(1, 13), BAD);
