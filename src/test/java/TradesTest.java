@@ -4,156 +4,329 @@ public final class TradesTest {
     private static final Due due = new Due();
 
     public static void main(String[] args) {
-        push();
-        pushFirstRow();
-        pair();
-        cheap();
-        game();
-        refused();
-        changesNothing();
-        due.end("TradesTest");
+        due.run(TradesTest.class);
     }
 
-    private static void push() {
+    // ---- 27 push
+
+    @Says("The fewest TRADES (0 .. 3) by which a PERSON GOES within n CLEAR NIGHTS")
+    static void promise27_theFewestTrades() {
         MoonLine x = Due.line("w90 w90 w90 w90 w90");
-        due.is("push(0, 1, 0)", x.push(0, 1, 0), 0);
-        rowIs(x, 0);
-        due.is("push(3, 1, 0)", x.push(3, 1, 0), 3);
-        rowIs(x, 0, 2, 1, 0);
-        due.is("push(4, 1, 0)", x.push(4, 1, 0), NONE);
-        rowIs(x, 0, 2, 1, 0);
-        due.is("push(4, 2, 5)", x.push(4, 2, 5), 3);
-        rowIs(x, 5, 3, 2, 1);
-        due.is("push(4, 5, 5)", x.push(4, 5, 5), 0);
-        rowIs(x, 5);
-        due.is("push(4, 7, 5)", x.push(4, 7, 5), 0);
-        x.night(1);
-        due.is("push() of one that WENT", x.push(0, 7, 5), NONE);
-        due.is("push(4, 1, 5)", x.push(4, 1, 5), 3);
-        rowIs(x, 5, 2, 1, 0);
+        due.is(x, "push(0, 1, 0)", 0);
+        due.is(x, "push(1, 1, 0)", 1);
+        due.is(x, "push(2, 1, 0)", 2);
+        due.is(x, "push(3, 1, 0)", 3);
+        due.is(x, "push(4, 2, 0)", 3);
+        due.is(x, "push(4, 4, 0)", 1);
+        due.is(x, "push(4, 5, 0)", 0);
+        due.order(x, 0, 1, 2, 3, 4);
+        due.is(x, "count(2)", 0);
     }
 
-    private static void pushFirstRow() {
-        // the LOVER lets the WAITER behind it go ahead
-        MoonLine x = Due.line("l90 w90 w90");
-        due.is("push(0, 2, 1)", x.push(0, 2, 1), NONE);
-        due.is("push(0, 3, 1)", x.push(0, 3, 1), 0);
-        due.is("push(2, 1, 1)", x.push(2, 1, 1), 1);
-        rowIs(x, 1, 1);
-        x = Due.line("w90 w90 l90 w90 w90");
-        due.is("push(4, 2, 1)", x.push(4, 2, 1), 3);
-        // by 3 1 2 and 3 2 1 it GOES too: the first row counts
-        rowIs(x, 1, 1, 3, 2);
+    @Says({"the first row of these comes to a ROW (anew)", "it is told by the place of the one ahead"})
+    static void promise27_theRowOfTrades() {
+        MoonLine x = Due.line("w90 w90 w90 w90 w90");
+        Due.fill(x, 5, 7, 7, 7, 7);
+        x.push(3, 1, 5);
+        due.row(x, 5, 2, 1, 0);
+        x.push(4, 2, 0);
+        due.row(x, 0, 3, 2, 1);
+        x.push(1, 1, 0);
+        due.row(x, 0, 0);
     }
 
-    private static void pair() {
-        MoonLine x = Due.line("w90 w90 w90 s90");
-        due.is("pair(0, 1, 2)", x.pair(0, 1, 2), 0);
-        due.is("pair(0, 1, 1)", x.pair(0, 1, 1), NONE);
-        due.is("pair(1, 2, 3)", x.pair(1, 2, 3), 0);
-        due.is("pair(1, 2, 2)", x.pair(1, 2, 2), 2);
-        due.is("pair(1, 0, 2)", x.pair(1, 0, 2), 1);
-        due.is("pair(0, 2, 2)", x.pair(0, 2, 2), 1);
-        due.is("pair(2, 1, 2)", x.pair(2, 1, 2), 3);
-        due.is("pair(0, 3, 7)", x.pair(0, 3, 7), NONE);
-        x.night(1);
-        due.is("pair() with one that WENT", x.pair(0, 1, 7), NONE);
-        due.is("pair(1, 0, 7) with one that WENT", x.pair(1, 0, 7), NONE);
-    }
-
-    private static void cheap() {
-        MoonLine x = Due.line("w95 w91 w99 w92");
-        due.is("cheap(0, 1)", x.cheap(0, 1), 0);
-        due.is("cheap(1, 1)", x.cheap(1, 1), 6);
-        due.is("cheap(2, 1)", x.cheap(2, 1), 10 + 14);
-        due.is("cheap(3, 2)", x.cheap(3, 2), 11 + 3);
-        due.is("cheap(3, 4)", x.cheap(3, 4), 0);
-        x.price(1, 0);
-        due.is("cheap(3, 2) by the new PRICE", x.cheap(3, 2), 11 + 2);
-        x = Due.line("w99 w90 w90");
-        due.is("cheap(2, 1)", x.cheap(2, 1), 9);
-        due.is("cheap(2, 2)", x.cheap(2, 2), 0);
-        x = Due.line("w90 w90 w90 w90 w90");
-        due.is("cheap(4, 1)", x.cheap(4, 1), NONE);
-        x = Due.line("l90 w99 w90 w90");
-        due.is("cheap(2, 1) behind a LOVER", x.cheap(2, 1), 9);
-        // one TRADE makes the dear one GIVE UP; two TRADES with others cost less
-        x = Due.line("w19 w90 s90 w90");
-        due.is("push(3, 2, 0)", x.push(3, 2, 0), 1);
-        rowIs(x, 0, 0);
-        due.is("cheap(3, 2)", x.cheap(3, 2), 0);
-        x = Due.line("w10 w10");
-        x.night(0);
-        due.is("cheap() of one that GAVE UP", x.cheap(0, 1), NONE);
-    }
-
-    private static void game() {
-        MoonLine x = Due.line("w90 w90 w90 w90 s90");
-        due.is("game(0, 0)", x.game(0, 0), 0);
-        due.is("game(0, 1)", x.game(0, 1), 1);
-        due.is("game(1, 1)", x.game(1, 1), 1);
-        due.is("game(2, 1)", x.game(2, 1), 0);
-        // of two NIGHTS one may be cloudy, the second one too
-        due.is("game(1, 2)", x.game(1, 2), 1);
-        due.is("game(2, 2)", x.game(2, 2), 0);
-        due.is("game(3, 2)", x.game(3, 2), 0);
-        due.is("game(3, 3)", x.game(3, 3), 1);
-        due.is("game(4, 4)", x.game(4, 4), 0);
-        x = Due.line("w10");
-        due.is("game(0, 1): no cloud may come", x.game(0, 1), 1);
-        due.is("game(0, 2): a cloud comes in the first", x.game(0, 2), 0);
-        x = Due.line("l90 w90");
-        due.is("game(0, 1): the first LOVER has nobody to TRADE with", x.game(0, 1), 0);
-        due.is("game(0, 2): the WAITER goes in one, a cloud comes in another", x.game(0, 2), 0);
-        due.is("game(0, 3)", x.game(0, 3), 1);
-        x = Due.line("w90 l90 w90");
-        due.is("game(0, 1): not to TRADE is best", x.game(0, 1), 1);
-        due.is("game(1, 1): by no way", x.game(1, 1), 0);
-        x.night(1);
-        due.is("game() of one that WENT", x.game(0, 4), 0);
-    }
-
-    private static void refused() {
+    @Says("comes to a ROW (anew)")
+    static void promise27_aRowOfNoTrades() {
         MoonLine x = Due.line("w90 w90");
-        int[] wrong = {-1, 2, Integer.MAX_VALUE, Integer.MIN_VALUE};
-        for (int i : wrong) {
-            due.is("push(" + i + ", 1, 0)", x.push(i, 1, 0), BAD);
-            due.is("pair(" + i + ", 1, 1)", x.pair(i, 1, 1), BAD);
-            due.is("pair(0, " + i + ", 1)", x.pair(0, i, 1), BAD);
-            due.is("cheap(" + i + ", 1)", x.cheap(i, 1), BAD);
-            due.is("game(" + i + ", 1)", x.game(i, 1), BAD);
-        }
-        int[] wrongNights = {-1, 0, 8, Integer.MAX_VALUE};
-        for (int n : wrongNights) {
-            due.is("push(0, " + n + ", 0)", x.push(0, n, 0), BAD);
-            due.is("pair(0, 1, " + n + ")", x.pair(0, 1, n), BAD);
-            due.is("cheap(0, " + n + ")", x.cheap(0, n), BAD);
-        }
-        due.is("push(0, 1, 6)", x.push(0, 1, 6), BAD);
-        due.is("push(0, 1, -1)", x.push(0, 1, -1), BAD);
-        due.is("pair(1, 1, 2)", x.pair(1, 1, 2), BAD);
-        due.is("game(0, 5)", x.game(0, 5), BAD);
-        due.is("game(0, -1)", x.game(0, -1), BAD);
-        due.is("ROWS", x.count(8), 0);
-        due.is("push(0, 7, 5)", x.push(0, 7, 5), 0);
-        due.is("ROWS then", x.count(8), 1);
+        Due.fill(x, 1, 4, 5);
+        due.is(x, "push(0, 1, 1)", 0);
+        due.row(x, 1);
+        due.is(x, "push(1, 7, 2)", 0);
+        due.row(x, 2);
+        due.is(x, "count(8)", 2);
     }
 
-    private static void changesNothing() {
-        MoonLine x = Due.line("s50 p40 d30 r90 l20");
+    @Says("Rows of TRADES go by their first numbers, then second ones")
+    static void promise27_theFirstRow() {
+        // by 3 1 2 and 3 2 1 it GOES too
+        MoonLine x = Due.line("w90 w90 l90 w90 w90");
+        due.is(x, "push(4, 2, 1)", 3);
+        due.row(x, 1, 1, 3, 2);
+        MoonLine y = Due.line("l90 w90 w90");
+        due.is(y, "push(2, 1, 1)", 1);
+        due.row(y, 1, 1);
+    }
+
+    @Says("A TRADE aside is one of two who stand side by side")
+    static void promise27_sideBySideInTheLineAsItIs() {
+        MoonLine x = Due.line("w90 w90 w90 w90 w90");
         x.night(1);
-        long before = x.digest();
-        x.pair(2, 3, 7);
-        x.cheap(2, 7);
-        x.game(2, 4);
-        due.is("aside", x.digest() == before ? 1 : 0, 1);
+        due.is(x, "push(4, 1, 5)", 3);
+        due.row(x, 5, 2, 1, 0);
+        x.trade(1, 4);
+        due.is(x, "push(1, 1, 5)", 3);
+        due.is(x, "push(4, 1, 5)", 0);
     }
 
-    private static void rowIs(MoonLine x, int r, int... places) {
-        for (int k = 0; k < places.length; k++) {
-            due.is("at(" + r + ", " + k + ")", x.at(r, k), 1);
-            due.is("asked()", x.asked(), places[k]);
+    @Says("They are done ahead of this NIGHT")
+    static void promise27_aheadOfThisNight() {
+        // in NIGHT 2 the PUSHER would go ahead of the DREAMER, so one has to come between these two first;
+        // behind the PUSHER's going ahead it would be another TRADE
+        MoonLine x = Due.line("w90 d90 p90");
+        x.night(0);
+        x.night(0);
+        x.trade(1, 2);
+        due.order(x, 0, 1, 2);
+        due.is(x, "push(1, 2, 0)", 1);
+        due.row(x, 0, 0);
+    }
+
+    @Says("NONE: by none")
+    static void promise27_byNone() {
+        MoonLine x = Due.line("w90 w90 w90 w90 w90 s90");
+        Due.fill(x, 1, 4, 5);
+        due.aside(x, "push(4, 1, 1)", NONE);
+        due.aside(x, "push(5, 7, 1)", NONE);
+        due.aside(x, "push(5, 7, 2)", NONE);
+        x.night(1);
+        due.aside(x, "push(0, 7, 1)", NONE);
+    }
+
+    @Says("n 1 .. 7 CLEAR NIGHTS one behind the other from this one on")
+    static void promise27_withinAllOf7Nights() {
+        MoonLine x = Due.line("w90 w90 w90 w90 w90 w90 d90");
+        due.is(x, "push(6, 7, 0)", 0);
+        // in NIGHTS 4 and 5 it is ASLEEP, in NIGHT 3 three TRADES have to be done for it
+        due.is(x, "push(6, 6, 0)", 3);
+        due.is(x, "push(6, 3, 0)", NONE);
+    }
+
+    @Says("BAD")
+    static void promise27_noSuchNumberIsBad() {
+        MoonLine x = Due.line("w90 w90");
+        for (int i : Due.outside(0, 1)) {
+            due.refused(x, "push(" + i + ", 1, 0)", BAD);
         }
-        due.finds("the ROW's end", x, x.at(r, places.length), 2);
+        for (int n : Due.outside(1, 7)) {
+            due.refused(x, "push(0, " + n + ", 0)", BAD);
+        }
+        for (int r : Due.outside(0, 5)) {
+            due.refused(x, "push(0, 1, " + r + ")", BAD);
+        }
+        due.refused(new MoonLine(), "push(0, 1, 0)", BAD);
+    }
+
+    // ---- 28 pair
+
+    @Says("The fewest TRADES (0 .. 3) by which one GOES, and another one in the NIGHT behind it")
+    static void promise28_theFewestTrades() {
+        MoonLine x = Due.line("w90 w90 w90 s90");
+        due.aside(x, "pair(0, 1, 2)", 0);
+        due.aside(x, "pair(1, 2, 3)", 0);
+        due.aside(x, "pair(1, 0, 2)", 1);
+        due.aside(x, "pair(0, 2, 2)", 1);
+        due.aside(x, "pair(1, 2, 2)", 2);
+        due.aside(x, "pair(2, 1, 2)", 3);
+    }
+
+    @Says("within n CLEAR NIGHTS")
+    static void promise28_bothWithinTheNights() {
+        MoonLine x = Due.line("w90 w90 w90 w90 w90 w90 w90");
+        due.is(x, "pair(5, 6, 7)", 0);
+        due.is(x, "pair(5, 6, 6)", 2);
+        due.is(x, "pair(0, 1, 1)", NONE);
+        due.is(x, "pair(0, 1, 2)", 0);
+    }
+
+    @Says("in the NIGHT behind it")
+    static void promise28_notTwoNightsBehind() {
+        // the DREAMER is awake in NIGHTS 0 and 3 alone
+        MoonLine x = Due.line("w90 s90 d90");
+        due.is(x, "pair(0, 2, 7)", NONE);
+        // ahead of the WAITER the DREAMER GOES in NIGHT 0
+        due.is(x, "pair(2, 0, 7)", 2);
+    }
+
+    @Says("NONE: by none")
+    static void promise28_byNone() {
+        MoonLine x = Due.line("w90 w90 w90 s90");
+        due.is(x, "pair(0, 3, 7)", NONE);
+        due.is(x, "pair(3, 0, 7)", NONE);
+        x.night(1);
+        due.is(x, "pair(0, 1, 7)", NONE);
+        due.is(x, "pair(1, 0, 7)", NONE);
+        MoonLine y = Due.line("w90 w90 w90 w90 w90");
+        due.is(y, "pair(4, 3, 2)", NONE);
+        due.is(y, "pair(3, 4, 2)", NONE);
+    }
+
+    @Says("BAD: also the same")
+    static void promise28_theSameIsBad() {
+        MoonLine x = Due.line("w90 w90");
+        due.refused(x, "pair(0, 0, 2)", BAD);
+        due.refused(x, "pair(1, 1, 2)", BAD);
+    }
+
+    @Says("BAD")
+    static void promise28_noSuchNumberIsBad() {
+        MoonLine x = Due.line("w90 w90");
+        for (int i : Due.outside(0, 1)) {
+            due.refused(x, "pair(" + i + ", 1, 1)", BAD);
+            due.refused(x, "pair(0, " + i + ", 1)", BAD);
+        }
+        for (int n : Due.outside(1, 7)) {
+            due.refused(x, "pair(0, 1, " + n + ")", BAD);
+        }
+        due.refused(new MoonLine(), "pair(0, 1, 1)", BAD);
+    }
+
+    // ---- 29 cheap
+
+    @Says("The least sum of PRICES (of each TRADE those of both)")
+    static void promise29_theLeastSum() {
+        MoonLine x = Due.line("w95 w91 w99 w92");
+        due.aside(x, "cheap(0, 1)", 0);
+        due.aside(x, "cheap(1, 1)", 5 + 1);
+        due.aside(x, "cheap(2, 1)", 9 + 1 + 9 + 5);
+        due.aside(x, "cheap(3, 2)", 2 + 9 + 2 + 1);
+        due.aside(x, "cheap(3, 4)", 0);
+        x.price(1, 0);
+        due.aside(x, "cheap(3, 2)", 2 + 9 + 2 + 0);
+    }
+
+    @Says("The least sum of PRICES")
+    static void promise29_moreTradesMayCostLess() {
+        // by one TRADE of the first two, of whom the dear one then GIVES UP, 9; by two of the others nothing
+        MoonLine x = Due.line("w10 w90 s90 w90");
+        x.price(0, 9);
+        due.is(x, "push(3, 2, 0)", 1);
+        due.row(x, 0, 0);
+        due.is(x, "cheap(3, 2)", 0);
+    }
+
+    @Says("of at most 3 TRADES")
+    static void promise29_atMost3Trades() {
+        MoonLine x = Due.line("w90 w90 w90 w90 w90");
+        due.is(x, "cheap(3, 1)", 0);
+        due.is(x, "cheap(4, 1)", NONE);
+        MoonLine y = Due.line("w99 w99 w99 w99");
+        due.is(y, "cheap(3, 1)", 54);
+    }
+
+    @Says("NONE: by none")
+    static void promise29_byNone() {
+        MoonLine x = Due.line("w90 w90 s90");
+        due.is(x, "cheap(2, 7)", NONE);
+        x.night(1);
+        due.is(x, "cheap(0, 7)", NONE);
+        MoonLine y = Due.line("w10 w90");
+        y.night(0);
+        due.is(y, "cheap(0, 7)", NONE);
+    }
+
+    @Says("within n CLEAR NIGHTS")
+    static void promise29_withinAllOf7Nights() {
+        MoonLine x = Due.line("w91 w91 w91 w91 w91 w91 w91");
+        due.is(x, "cheap(6, 7)", 0);
+        due.is(x, "cheap(6, 6)", 2);
+        due.is(x, "cheap(6, 3)", NONE);
+    }
+
+    @Says("BAD")
+    static void promise29_noSuchNumberIsBad() {
+        MoonLine x = Due.line("w90 w90");
+        for (int i : Due.outside(0, 1)) {
+            due.refused(x, "cheap(" + i + ", 1)", BAD);
+        }
+        for (int n : Due.outside(1, 7)) {
+            due.refused(x, "cheap(0, " + n + ")", BAD);
+        }
+        due.refused(new MoonLine(), "cheap(0, 1)", BAD);
+    }
+
+    // ---- 30 game
+
+    @Says("whether the PERSON GOES in these, both playing best (1, 0)")
+    static void promise30_whetherItGoes() {
+        MoonLine x = Due.line("w90 w90 w90 w90 s90");
+        due.aside(x, "game(0, 1)", 1);
+        due.aside(x, "game(2, 1)", 0);
+        due.aside(x, "game(3, 3)", 1);
+        due.aside(x, "game(4, 4)", 0);
+    }
+
+    @Says({"By turns a cloud comes, or not (the NIGHT is CLEAR, or not), and a PERSON TRADES with who stands just ahead",
+        "ahead of each NIGHT, the PERSON first"})
+    static void promise30_thePersonFirst() {
+        // it TRADES ahead of the NIGHT, then that is CLEAR
+        MoonLine x = Due.line("w90 w90");
+        due.is(x, "game(1, 1)", 1);
+        due.is(x, "game(1, 2)", 1);
+    }
+
+    @Says("(if there is somebody)")
+    static void promise30_nobodyIsAheadOfTheFirst() {
+        MoonLine x = Due.line("l90 w90");
+        due.is(x, "game(0, 1)", 0);
+        due.is(x, "game(0, 2)", 0);
+        due.is(x, "game(0, 3)", 1);
+        due.is(Due.line("w90"), "game(0, 1)", 1);
+    }
+
+    @Says("or does not")
+    static void promise30_notToTradeMayBeBest() {
+        // a LOVER behind another one GOES in its place; ahead of it, the other one would GO
+        MoonLine x = Due.line("l90 l90");
+        due.is(x, "game(1, 1)", 1);
+        due.is(x, "game(0, 1)", 0);
+        due.is(Due.line("w90 l90 w90"), "game(1, 1)", 0);
+    }
+
+    @Says("of which half (cut) at most may be cloudy")
+    static void promise30_halfOfTheNightsMayBeCloudy() {
+        // of one NIGHT none, of two and of three one, of four two may be cloudy: it has so many NIGHTS' PATIENCE
+        due.is(Due.line("w10"), "game(0, 1)", 1);
+        due.is(Due.line("w10"), "game(0, 2)", 0);
+        due.is(Due.line("w20"), "game(0, 2)", 1);
+        due.is(Due.line("w10"), "game(0, 3)", 0);
+        due.is(Due.line("w20"), "game(0, 3)", 1);
+        due.is(Due.line("w20"), "game(0, 4)", 0);
+        due.is(Due.line("w30"), "game(0, 4)", 1);
+    }
+
+    @Says("n (0 .. 4) NIGHTS")
+    static void promise30_noNights() {
+        MoonLine x = Due.line("w90 w90");
+        due.is(x, "game(0, 0)", 0);
+        due.is(x, "game(1, 0)", 0);
+    }
+
+    @Says("n (0 .. 4) NIGHTS")
+    static void promise30_4Nights() {
+        // from the fifth place it is first behind two CLEAR NIGHTS, and then two may be cloudy
+        MoonLine x = Due.line("w90 w90 w90 w90 w90 w90 w90");
+        due.is(x, "game(3, 4)", 1);
+        due.is(x, "game(4, 4)", 0);
+    }
+
+    @Says("whether the PERSON GOES in these")
+    static void promise30_outOfTheLine() {
+        MoonLine x = Due.line("w90 w10 w90");
+        x.night(1);
+        due.is(x, "game(0, 4)", 0);
+        due.is(x, "game(1, 4)", 0);
+        due.is(x, "game(2, 4)", 1);
+    }
+
+    @Says("BAD")
+    static void promise30_noSuchNumberIsBad() {
+        MoonLine x = Due.line("w90 w90");
+        for (int i : Due.outside(0, 1)) {
+            due.refused(x, "game(" + i + ", 1)", BAD);
+        }
+        for (int n : Due.outside(0, 4)) {
+            due.refused(x, "game(0, " + n + ")", BAD);
+        }
+        due.refused(new MoonLine(), "game(0, 1)", BAD);
     }
 }
