@@ -330,7 +330,7 @@ public final class MoonLine {
         }
         walk.begin(crowd, queue, n);
         walk.waitFor(i, 1, 1);
-        walk.waysFrom(0);
+        walk.ways();
         return walk.soonestNight < n ? walk.soonestNight : NONE;
     }
 
@@ -340,14 +340,16 @@ public final class MoonLine {
         }
         walk.begin(crowd, queue, n);
         walk.waitFor(i, 1, 1);
-        return (int) walk.waysFrom(0);
+        return (int) walk.ways();
     }
 
     public int odds(int i, int n, int p) {
         if (!crowd.has(i) || n < 0 || n > WALK_MOST || !isChance(p)) {
             return BAD;
         }
-        tellChance(i, n, p);
+        walk.begin(crowd, queue, n);
+        walk.waitFor(i, p, CHANCE_PARTS - p);
+        tellChance(walk.ways(), walk.allWays(n));
         return 1;
     }
 
@@ -355,7 +357,9 @@ public final class MoonLine {
         if (n < 0 || n > WALK_MOST || !isChance(p)) {
             return BAD;
         }
-        tellChance(ANYBODY, n, p);
+        walk.begin(crowd, queue, n);
+        walk.waitFor(ANYBODY, p, CHANCE_PARTS - p);
+        tellChance(walk.ways(), walk.allWays(n));
         return 1;
     }
 
@@ -394,8 +398,7 @@ public final class MoonLine {
         }
         search.begin(crowd, queue, n);
         search.seek(i, NOBODY);
-        search.lookForCheaper(0, 0);
-        return search.leastSum;
+        return search.leastPrice();
     }
 
     public int game(int i, int n) {
@@ -403,7 +406,7 @@ public final class MoonLine {
             return BAD;
         }
         cloudGame.begin(crowd, queue, i, n);
-        return cloudGame.isWonFrom(0, n / 2) ? 1 : 0;
+        return cloudGame.isWon() ? 1 : 0;
     }
 
     // ---- 5 who went when
@@ -466,7 +469,7 @@ public final class MoonLine {
         for (int k = 0; k + 1 < row.size; k += 2) {
             memories.addPair(row.places[k], row.places[k + 1]);
         }
-        memories.standBehind(NOBODY, 0, 0, 0);
+        memories.countOrders();
         tellWays(memories.ways);
         return row.size / 2 - memories.mostTrue;
     }
@@ -651,17 +654,13 @@ public final class MoonLine {
         toldLower = 1;
     }
 
-    private void tellChance(int who, int n, int p) {
-        walk.begin(crowd, queue, n);
-        walk.waitFor(who, p, CHANCE_PARTS - p);
-        long upper = walk.waysFrom(0);
-        long lower = walk.allWays(n);
-        long divisor = commonDivisor(upper, lower);
+    private void tellChance(long ways, long allWays) {
+        long divisor = commonDivisor(ways, allWays);
         if (divisor == 0) {
             return;
         }
-        toldUpper = upper / divisor;
-        toldLower = lower / divisor;
+        toldUpper = ways / divisor;
+        toldLower = allWays / divisor;
     }
 
     private static long commonDivisor(long a, long b) {
@@ -931,7 +930,8 @@ public final class MoonLine {
         }
 
         boolean isAsleep(int i, int night) {
-            if (!has(i)) {
+            // not by has(): here the longest chain of calls ends, and LANGUAGE.md allows eight
+            if (i < 0 || i >= number) {
                 return false;
             }
             return kind[i] == SLEEPER || kind[i] == DREAMER && night % 3 != 0;
@@ -1210,8 +1210,12 @@ public final class MoonLine {
             return nights >= 0 && nights <= WALK_MOST ? power[nights] : 1;
         }
 
-        /** The sum of the weights of all rows from a night on, as often as one waited for goes. */
-        long waysFrom(int depth) {
+        /** The sum of the weights of all rows, as often as one waited for goes. */
+        long ways() {
+            return waysFrom(0);
+        }
+
+        private long waysFrom(int depth) {
             if (depth >= length || crowd == null) {
                 return 0;
             }
@@ -1278,8 +1282,8 @@ public final class MoonLine {
         private int nights = 0;
         private int one = NOBODY;
         private int follower = NOBODY;
+        private int leastSum = NONE;
         final int[] chosen = new int[TRADES_MOST];
-        int leastSum = NONE;
 
         TradeSearch() {
             for (int k = 0; k <= TRADES_MOST; k++) {
@@ -1324,7 +1328,12 @@ public final class MoonLine {
             return false;
         }
 
-        void lookForCheaper(int depth, int sum) {
+        int leastPrice() {
+            lookForCheaper(0, 0);
+            return leastSum;
+        }
+
+        private void lookForCheaper(int depth, int sum) {
             if (crowd == null || leastSum != NONE && sum >= leastSum) {
                 return;
             }
@@ -1386,7 +1395,11 @@ public final class MoonLine {
             steps[0].setAs(from);
         }
 
-        boolean isWonFrom(int depth, int clouds) {
+        boolean isWon() {
+            return isWonFrom(0, length / 2);
+        }
+
+        private boolean isWonFrom(int depth, int clouds) {
             if (depth >= length || crowd == null) {
                 return false;
             }
@@ -1446,8 +1459,12 @@ public final class MoonLine {
             return i >= 0 && i < number;
         }
 
+        void countOrders() {
+            standBehind(NOBODY, 0, 0, 0);
+        }
+
         /** Goes through all orders that begin with those who stand, the last of them one told. */
-        void standBehind(int last, int standing, int depth, int trueOnes) {
+        private void standBehind(int last, int standing, int depth, int trueOnes) {
             if (depth >= number) {
                 countOrder(trueOnes);
                 return;

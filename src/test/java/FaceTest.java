@@ -2,16 +2,12 @@ import java.lang.reflect.Constructor;
 import java.lang.reflect.Field;
 import java.lang.reflect.Method;
 import java.lang.reflect.Modifier;
-import java.nio.file.Files;
-import java.nio.file.Path;
 import java.util.ArrayList;
 import java.util.Arrays;
 import java.util.List;
 import java.util.TreeSet;
-import java.util.regex.Matcher;
-import java.util.regex.Pattern;
 
-/** The public face, and the rules of LANGUAGE.md that can be read off the class and its source. */
+/** The public face, by the class itself, and that no call makes an object. */
 public final class FaceTest {
     private static final String[] FACE = {
         "int row(int,int)", "int lay(int,int,int)", "int at(int,int)", "int tear(int)", "int copy(int,int,int,int,int)",
@@ -28,8 +24,6 @@ public final class FaceTest {
     public static void main(String[] args) throws Exception {
         face();
         constants();
-        source();
-        shape();
         room();
         due.end("FaceTest");
     }
@@ -81,49 +75,6 @@ public final class FaceTest {
         }
         TreeSet<String> want = new TreeSet<>(List.of("BAD-1", "FULL-2", "FINDING-3", "STATE-4", "SPENT-6", "NONE-9"));
         yes("the constants are as told, but they are " + open, open.equals(want));
-    }
-
-    private static void source() throws Exception {
-        String all = Files.readString(Path.of("src/main/java/MoonLine.java"));
-        String code = all.replaceAll("(?s)/\\*.*?\\*/", "").replaceAll("//[^\n]*", "");
-        for (String word : List.of("throw", "throws", "try", "catch", "finally", "synchronized", "assert", "package",
-            "volatile", "native", "strictfp", "hashCode", "toString", "System.out", "Thread", "Random", "nanoTime",
-            "currentTimeMillis", "instanceof", "protected", "double", "float")) {
-            yes("no " + word, !Pattern.compile("\\b" + Pattern.quote(word) + "\\b").matcher(code).find());
-        }
-        yes("no lambda, no method reference", !code.contains("->") && !code.contains("::"));
-        yes("signs 1 to 127 alone", all.chars().allMatch(c -> c > 0 && c < 128));
-        Matcher imports = Pattern.compile("import ([^;]+);").matcher(code);
-        while (imports.find()) {
-            yes("import " + imports.group(1), List.of("java.util.Arrays", "java.util.ArrayList", "java.util.List").contains(imports.group(1)));
-        }
-        Matcher library = Pattern.compile("\\b(Math|Integer|Arrays|System|Long|String)\\.(\\w+)").matcher(code);
-        while (library.find()) {
-            String call = library.group(1) + "." + library.group(2);
-            yes(call, List.of("Math.min", "Integer.bitCount", "Arrays.fill", "System.arraycopy").contains(call));
-        }
-    }
-
-    private static void shape() throws Exception {
-        yes("at most twelve classes", allClasses().size() <= 12);
-        for (Class<?> c : allClasses()) {
-            int fields = 0;
-            for (Field f : c.getDeclaredFields()) {
-                fields += Modifier.isStatic(f.getModifiers()) ? 0 : 1;
-                yes(f + " is no changing static", !Modifier.isStatic(f.getModifiers()) || Modifier.isFinal(f.getModifiers()));
-            }
-            yes(c + " has at most twenty fields", fields <= 20);
-            yes(c + " is static inside", c == MoonLine.class || Modifier.isStatic(c.getModifiers()));
-            for (Method m : c.getDeclaredMethods()) {
-                yes(m + " takes at most seven", m.getParameterCount() <= 7);
-            }
-        }
-        int lines = 0;
-        for (String line : Files.readAllLines(Path.of("src/main/java/MoonLine.java"))) {
-            boolean begins = line.matches("( {4}| {8})\\S.*\\) \\{") && !line.contains(" class ");
-            lines = begins ? 1 : lines + 1;
-            yes("a short method at: " + line, !line.matches("( {4}| {8})\\}") || lines <= 60 || line.equals("    }"));
-        }
     }
 
     /** What the dearest calls make: nothing, so that a long run stays in its room. */
